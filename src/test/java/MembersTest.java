@@ -180,6 +180,10 @@ public final class MembersTest {
         shelf.replace(1, 10, 6);
         shelf.alias(4, 1);
         shelf.rename(1, 100);
+        shelf.alias(0, 100);
+        shelf.rename(100, 99);
+        DUE.is("the first entry knows the new name", shelf.entry(0, 7), 99);
+        shelf.rename(99, 100);
         for (int alias = 2; alias <= 4; alias++) {
             DUE.is("alias " + alias + " knows the new name", shelf.entry(alias, 7), 100);
             DUE.is("alias " + alias + " lost", shelf.entry(alias, 8), alias == 4 ? 0 : 1);

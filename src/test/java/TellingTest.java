@@ -10,6 +10,7 @@ public final class TellingTest {
         units();
         fitting();
         beginnings();
+        lostAtTheFront();
         counts();
         DUE.end();
     }
@@ -165,6 +166,19 @@ public final class TellingTest {
         }
     }
 
+    private static void lostAtTheFront() {
+        MemberShelf shelf = new MemberShelf();
+        shelf.add(5, 10, 1);
+        shelf.alias(0, 5);
+        shelf.alias(1, 5);
+        DUE.is("none is lost", shelf.count(3), 0);
+        shelf.remove(5);
+        DUE.is("both are lost", shelf.count(3), 2);
+        DUE.is("no member", shelf.count(1), 0);
+        DUE.is("one text", shelf.count(10), 1);
+        DUE.is("its units, once", shelf.count(7), 10);
+    }
+
     private static void counts() {
         MemberShelf shelf = aShelf();
         shelf.type('A');
@@ -181,6 +195,9 @@ public final class TellingTest {
         for (int what = 0; what < then.length; what++) {
             DUE.is("then count(" + what + ")", shelf.count(what), then[what]);
         }
+        shelf.add(0, 1, 1);
+        DUE.is("members with one more", shelf.count(1), 3);
+        DUE.is("aliases with one member more", shelf.count(2), 2);
         DUE.is("count(15)", shelf.count(15), -2);
         for (int wild : WILD) {
             DUE.is("count(" + wild + ")", shelf.count(wild), -2);
