@@ -495,7 +495,10 @@ public final class MemberShelf {
 
         /** Tells whether no entry ahead of this one points to the same text. */
         private boolean isFirstOfText(int rank) {
-            for (int ahead = 0; ahead < rank && ahead < size; ahead++) {
+            if (!isRank(rank)) {
+                return false;
+            }
+            for (int ahead = 0; ahead < rank; ahead++) {
                 if (starts[ahead] == starts[rank]) {
                     return false;
                 }

@@ -1,6 +1,11 @@
-/** Counts the answers that are not due. */
+import java.util.List;
+
+/** Counts the answers that are not due, and names the sentence of the document for which each was asked. */
 final class Due {
     private final String test;
+    private Document document = null;
+    private String sentence = "";
+    private int sentences = 0;
     private int asked = 0;
     private int wrong = 0;
 
@@ -8,47 +13,68 @@ final class Due {
         this.test = test;
     }
 
+    /** What is asked from here on is asked for these words, which stand at this place of the document. */
+    void sentence(String place, String words) {
+        if (document == null) {
+            document = new Document();
+        }
+        sentence = "; " + place + " says: " + words;
+        sentences++;
+        holds("the document", document.quote(place, words));
+    }
+
     void is(String call, long got, long due) {
         asked++;
         if (got != due) {
             wrong++;
-            System.out.println(test + ": " + call + " answered " + got + ", due is " + due);
+            System.out.println(test + ": " + call + " answered " + got + ", due is " + due + sentence);
         }
     }
 
     void holds(String what, boolean truth) {
-        is(what, truth ? 1 : 0, 1);
+        asked++;
+        if (!truth) {
+            wrong++;
+            System.out.println(test + ": " + what + " does not hold" + sentence);
+        }
     }
 
-    /** Asks all that an object tells, but for the history and the pad, so that two states can be compared. */
-    static String told(MemberShelf shelf) {
-        StringBuilder told = new StringBuilder();
-        for (int what = 0; what <= 12; what++) {
-            told.append(shelf.count(what)).append(' ');
-        }
-        for (int rank = 0; rank < shelf.count(0); rank++) {
-            int name = shelf.named(rank);
-            told.append("| ").append(name);
-            for (int what = 0; what <= 8; what++) {
-                told.append(' ').append(shelf.entry(name, what));
+    /** Makes the calls on a new object; those that are refused or only tell must change nothing. */
+    void run(String... lines) {
+        List<Call> calls = Call.all(lines);
+        answers(calls);
+        for (int place = 0; place < calls.size(); place++) {
+            Call call = calls.get(place);
+            if (call.isTelling() || call.hasDue() && call.due() < 0) {
+                boolean isSame = Run.whole(calls.subList(0, place)).equals(Run.whole(calls.subList(0, place + 1)));
+                holds(call + " changes nothing, which", isSame);
             }
         }
-        told.append("| ");
-        for (int unit = 0; unit < 100; unit++) {
-            told.append(shelf.at(unit)).append(' ');
-        }
-        return told.toString();
     }
 
-    /** Makes a call that changes nothing. */
-    void changesNothing(MemberShelf shelf, String call, java.util.function.IntSupplier act, long due) {
-        String before = told(shelf);
-        int states = shelf.count(13);
-        int characters = shelf.count(14);
-        is(call, act.getAsInt(), due);
-        holds(call + " changes no state", told(shelf).equals(before));
-        is(call + " then count(13)", shelf.count(13), states);
-        is(call + " then count(14)", shelf.count(14), characters);
+    /** Makes the calls on a new object and looks at their answers alone, so that there may be 512 of them. */
+    void answers(List<Call> calls) {
+        Run run = new Run();
+        for (int place = 0; place < calls.size(); place++) {
+            Call call = calls.get(place);
+            int got = run.make(call);
+            if (call.hasDue()) {
+                is("call " + place + ", " + call + ",", got, call.due());
+            }
+        }
+    }
+
+    /** A text of additions that has a fault, on the empty shelf. */
+    void fault(String text, int fault) {
+        run("pad(" + text + ")", "addAll() = " + (-100 - fault));
+    }
+
+    /** Asks whether every word of the document's terms and promises was quoted. */
+    void everySentence() {
+        sentence = "";
+        for (String words : document.unquoted()) {
+            holds("that a test quotes " + words, false);
+        }
     }
 
     static void type(MemberShelf shelf, String text) {
@@ -63,7 +89,8 @@ final class Due {
     }
 
     void end() {
-        System.out.println(test + ": " + asked + " answers, " + wrong + " of them not as due");
+        String told = sentences == 0 ? "" : sentences + " sentences, ";
+        System.out.println(test + ": " + told + asked + " answers, " + wrong + " of them not as due");
         if (wrong != 0) {
             System.exit(1);
         }
