@@ -2,12 +2,16 @@ import java.util.List;
 
 /** Counts the answers that are not due, and names the sentence of the document for which each was asked. */
 final class Due {
+    /** More of one sentence are counted, but not printed. */
+    private static final int MOST_PRINTED = 20;
+
     private final String test;
     private Document document = null;
     private String sentence = "";
     private int sentences = 0;
     private int asked = 0;
     private int wrong = 0;
+    private int printed = 0;
 
     Due(String test) {
         this.test = test;
@@ -20,22 +24,29 @@ final class Due {
         }
         sentence = "; " + place + " says: " + words;
         sentences++;
+        printed = 0;
         holds("the document", document.quote(place, words));
     }
 
     void is(String call, long got, long due) {
         asked++;
         if (got != due) {
-            wrong++;
-            System.out.println(test + ": " + call + " answered " + got + ", due is " + due + sentence);
+            tellWrong(call + " answered " + got + ", due is " + due);
         }
     }
 
     void holds(String what, boolean truth) {
         asked++;
         if (!truth) {
-            wrong++;
-            System.out.println(test + ": " + what + " does not hold" + sentence);
+            tellWrong(what + " does not hold");
+        }
+    }
+
+    private void tellWrong(String what) {
+        wrong++;
+        printed++;
+        if (printed <= MOST_PRINTED) {
+            System.out.println(test + ": " + what + sentence);
         }
     }
 
@@ -72,6 +83,7 @@ final class Due {
     /** Asks whether every word of the document's terms and promises was quoted. */
     void everySentence() {
         sentence = "";
+        printed = 0;
         for (String words : document.unquoted()) {
             holds("that a test quotes " + words, false);
         }
